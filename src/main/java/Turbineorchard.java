@@ -1,9 +1,9 @@
 /**
- * Wind turbines whose wakes, boats and grid slots bear on one another: hours go by, and each of them
- * has its wind, its waves, its repairs, its power and what it brings.
+ * Wind turbines whose wakes, boats and grid slots bear on one another. What each method of the face
+ * promises stands in the document; each looks at its arguments in the document's order, so that the
+ * classes inside are given nothing but turbines, boats, places and hours that there are.
  */
 public final class Turbineorchard {
-    /** There is none. */
     public static final int NONE = -1;
 
     private static final int COLUMNS = 6;
@@ -34,6 +34,20 @@ public final class Turbineorchard {
     private static final int MOST_PRICE = 100;
     private static final int PRICE_WITHOUT_SLOT = 2;
 
+    private static final int HOUR_MADE = 0;
+    private static final int HOUR_SOLD = 1;
+    private static final int HOUR_IMBALANCE = 2;
+    private static final int HOUR_BROUGHT = 3;
+
+    private static final int BOAT_TURBINE = 0;
+    private static final int BOAT_HOURS_LEFT = 1;
+    private static final int BOAT_WORKED_TODAY = 2;
+    private static final int BOAT_WORKED_IN_ALL = 3;
+
+    private static final int TURBINE_PLACE = 0;
+    private static final int TURBINE_BROKEN = 1;
+    private static final int TURBINE_MADE = 2;
+
     private final Weather weather = new Weather();
     private final Field field = new Field();
     private final Fleet fleet = new Fleet();
@@ -44,7 +58,6 @@ public final class Turbineorchard {
         now = 0;
     }
 
-    /** Builds a turbine at a place; returns its number. */
     public int turbine(int place) throws IndexOutOfBoundsException, IllegalStateException {
         if (!isWithin(place, 0, PLACES - 1)) {
             throw new IndexOutOfBoundsException("no such place");
@@ -55,7 +68,6 @@ public final class Turbineorchard {
         return field.build(place);
     }
 
-    /** Tells the wind of the hours from..to; returns how many hours that is. */
     public int wind(int from, int to, int speed, boolean west) throws IllegalArgumentException {
         if (!isToCome(from) || !isWithin(to, from, LAST_HOUR) || !isWithin(speed, 0, MOST_SPEED)) {
             throw new IllegalArgumentException("from, to or speed is out of range");
@@ -64,7 +76,6 @@ public final class Turbineorchard {
         return to - from + 1;
     }
 
-    /** Tells the waves of an hour; returns those before. */
     public int waves(int hour, int waves) throws IllegalArgumentException {
         if (!isToCome(hour) || !isWithin(waves, 0, MOST_WAVES)) {
             throw new IllegalArgumentException("hour or waves is out of range");
@@ -74,7 +85,6 @@ public final class Turbineorchard {
         return before;
     }
 
-    /** Breaks a turbine; returns how many are broken. */
     public int breaks(int turbine) throws IndexOutOfBoundsException, IllegalStateException {
         if (!field.has(turbine)) {
             throw new IndexOutOfBoundsException("no such turbine");
@@ -86,7 +96,6 @@ public final class Turbineorchard {
         return field.countBroken();
     }
 
-    /** Tells how many hours of a day a crew works; returns the hours before. */
     public int crew(int boat, int hours) throws IndexOutOfBoundsException, IllegalArgumentException {
         if (!isBoat(boat)) {
             throw new IndexOutOfBoundsException("no such boat");
@@ -99,7 +108,6 @@ public final class Turbineorchard {
         return before;
     }
 
-    /** Begins a repair. */
     public void repair(int boat, int turbine, int hours)
             throws IndexOutOfBoundsException, IllegalArgumentException, IllegalStateException {
         if (!isBoat(boat) || !field.has(turbine)) {
@@ -114,7 +122,6 @@ public final class Turbineorchard {
         fleet.send(boat, turbine, hours);
     }
 
-    /** Sells a slot; returns the units sold before, NONE without. */
     public int sell(int hour, int units, int price) throws IllegalArgumentException, IllegalStateException {
         if (!isWithin(hour, 0, LAST_HOUR) || !isWithin(units, 0, MOST_UNITS) || !isWithin(price, 1, MOST_PRICE)) {
             throw new IllegalArgumentException("hour, units or price is out of range");
@@ -127,7 +134,6 @@ public final class Turbineorchard {
         return before;
     }
 
-    /** Lets hours go by; returns the hour. */
     public int pass(int hours) throws IllegalArgumentException, IllegalStateException {
         if (!isWithin(hours, 1, MOST_PASSED)) {
             throw new IllegalArgumentException("hours is out of range");
@@ -141,7 +147,6 @@ public final class Turbineorchard {
         return now;
     }
 
-    /** Returns the wind that is left at a turbine now, if no hour of a repair is done. */
     public int windAt(int turbine) throws IndexOutOfBoundsException {
         if (!field.has(turbine)) {
             throw new IndexOutOfBoundsException("no such turbine");
@@ -149,7 +154,6 @@ public final class Turbineorchard {
         return field.windLeft(turbine, weather.speedIn(now), weather.isWestIn(now));
     }
 
-    /** Returns the units that are foretold for an hour. */
     public int foretold(int hour) throws IllegalArgumentException {
         if (!isToCome(hour)) {
             throw new IllegalArgumentException("hour is out of range");
@@ -157,7 +161,6 @@ public final class Turbineorchard {
         return field.powerOfAll(weather.speedIn(hour), weather.isWestIn(hour));
     }
 
-    /** Returns the same as foretold, found in another order. */
     public int foretoldAnew(int hour) throws IllegalArgumentException {
         if (!isToCome(hour)) {
             throw new IllegalArgumentException("hour is out of range");
@@ -165,24 +168,22 @@ public final class Turbineorchard {
         return field.powerOfAllAnew(weather.speedIn(hour), weather.isWestIn(hour));
     }
 
-    /** Tells of an hour that is over: 0 made, 1 sold, 2 the imbalance, 3 what it brought. */
     public int ofHour(int hour, int what) throws IllegalArgumentException {
-        if (!isOver(hour) || !isWithin(what, 0, 3)) {
+        if (!isOver(hour) || !isWithin(what, HOUR_MADE, HOUR_BROUGHT)) {
             throw new IllegalArgumentException("hour or what is out of range");
         }
         switch (what) {
-            case 0:
+            case HOUR_MADE:
                 return ledger.madeIn(hour);
-            case 1:
+            case HOUR_SOLD:
                 return ledger.soldFor(hour);
-            case 2:
+            case HOUR_IMBALANCE:
                 return ledger.imbalanceOf(hour);
             default:
                 return ledger.proceedsOf(hour);
         }
     }
 
-    /** Returns what was made divided by what was sold in an hour that is over, 0 if nothing was sold. */
     public float ratio(int hour) throws IllegalArgumentException {
         if (!isOver(hour)) {
             throw new IllegalArgumentException("hour is out of range");
@@ -190,45 +191,42 @@ public final class Turbineorchard {
         return ledger.madeToSold(hour);
     }
 
-    /** Tells of a boat: 0 its turbine or NONE, 1 hours left, 2 hours worked today, 3 in all. */
     public int ofBoat(int boat, int what) throws IndexOutOfBoundsException, IllegalArgumentException {
         if (!isBoat(boat)) {
             throw new IndexOutOfBoundsException("no such boat");
         }
-        if (!isWithin(what, 0, 3)) {
+        if (!isWithin(what, BOAT_TURBINE, BOAT_WORKED_IN_ALL)) {
             throw new IllegalArgumentException("what is out of range");
         }
         switch (what) {
-            case 0:
+            case BOAT_TURBINE:
                 return fleet.turbineOf(boat);
-            case 1:
+            case BOAT_HOURS_LEFT:
                 return fleet.hoursLeft(boat);
-            case 2:
+            case BOAT_WORKED_TODAY:
                 return fleet.workedToday(boat);
             default:
                 return fleet.workedInAll(boat);
         }
     }
 
-    /** Tells of a turbine: 0 its place, 1 whether it is broken, 2 what it made in all. */
     public int ofTurbine(int turbine, int what) throws IndexOutOfBoundsException, IllegalArgumentException {
         if (!field.has(turbine)) {
             throw new IndexOutOfBoundsException("no such turbine");
         }
-        if (!isWithin(what, 0, 2)) {
+        if (!isWithin(what, TURBINE_PLACE, TURBINE_MADE)) {
             throw new IllegalArgumentException("what is out of range");
         }
         switch (what) {
-            case 0:
+            case TURBINE_PLACE:
                 return field.placeOf(turbine);
-            case 1:
+            case TURBINE_BROKEN:
                 return field.isBroken(turbine) ? 1 : 0;
             default:
                 return field.madeInAllBy(turbine);
         }
     }
 
-    /** Returns what all hours that are over brought. */
     public long brought() {
         return ledger.proceedsInAll();
     }
@@ -252,7 +250,8 @@ public final class Turbineorchard {
 
     private void liveHour() {
         workOnRepairs();
-        ledger.setMade(now, field.generate(weather.speedIn(now), weather.isWestIn(now)));
+        ledger.endHour(now, field.generate(weather.speedIn(now), weather.isWestIn(now)));
+        field.endStillness();
         // Only now: a turbine whose repair ends in this hour turns from the next hour on.
         endRepairs();
         now++;
@@ -403,7 +402,6 @@ public final class Turbineorchard {
             }
         }
 
-        /** Adds an hour's power to what each turbine made, ends the stillness, and returns that power. */
         int generate(int speed, boolean west) {
             int sum = 0;
             for (int turbine = 0; turbine < count; turbine++) {
@@ -411,11 +409,13 @@ public final class Turbineorchard {
                 madeInAll[turbine] += power;
                 sum += power;
             }
-            // Not in the loop above: a still turbine must stay still for the wakes of those after it.
+            return sum;
+        }
+
+        void endStillness() {
             for (int turbine = 0; turbine < count; turbine++) {
                 stilled[turbine] = false;
             }
-            return sum;
         }
 
         int powerOfAll(int speed, boolean west) {
@@ -444,12 +444,12 @@ public final class Turbineorchard {
             return turns(turbine) ? powerOfWind(windLeft(turbine, speed, west)) : 0;
         }
 
-        /** Looks through the turbines for those ahead, then takes their wakes, the nearest first. */
+        /** Needs the nearest first: as each wake is rounded down, another order may leave another wind. */
         int windLeft(int turbine, int speed, boolean west) {
             int distances = distancesAhead(places[turbine], west);
             int left = speed;
             for (int away = 1; away < COLUMNS; away++) {
-                if ((distances & 1 << away) != 0) {
+                if ((distances & (1 << away)) != 0) {
                     left -= takenByWake(left, away);
                 }
             }
@@ -468,7 +468,7 @@ public final class Turbineorchard {
             return distances;
         }
 
-        /** Finds the same as windLeft, from place to place. */
+        /** The document asks for the same once more, from place to place and so without windLeft. */
         private int windLeftAnew(int place, int speed, boolean west) {
             int step = west ? 1 : COLUMNS;
             int ahead = placesAhead(place, west);
@@ -617,8 +617,8 @@ public final class Turbineorchard {
             prices[hour] = price;
         }
 
-        /** Ends an hour: from now on its slot is never sold again, so what it brought stands. */
-        void setMade(int hour, int units) {
+        /** The hour's slot is not sold any more, so that what it brings now is what it brought for good. */
+        void endHour(int hour, int units) {
             made[hour] = units;
             proceeds += proceedsOf(hour);
         }

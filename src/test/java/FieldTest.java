@@ -73,6 +73,10 @@ public final class FieldTest {
         CHECK.notNow("the turbine 12 at a taken place", () -> x.turbine(23));
         CHECK.noSuch("turbine(24) of a full field", () -> x.turbine(24));
         CHECK.noSuch("ofTurbine(12, 0)", () -> x.ofTurbine(12, 0));
+        // The first row and the last are full: 10 in the one, and three places behind it 9 in the other.
+        dueForetold(x, 0, 6 * 1000 + 6 * 729);
+        x.pass(1);
+        CHECK.due("made by a full field", x.ofHour(0, 0), 6 * 1000 + 6 * 729);
     }
 
     private static void turbineRefuses() {
@@ -157,6 +161,10 @@ public final class FieldTest {
         CHECK.due("one 3 places behind", x.windAt(0), 21);
         CHECK.noSuch("windAt(4)", () -> x.windAt(4));
         CHECK.noSuch("windAt(-1)", () -> x.windAt(-1));
+        x.breaks(3);
+        CHECK.due("2 places behind alone", x.windAt(2), 32);
+        x.wind(0, 0, 33, false);
+        CHECK.due("a wake of just under 10", x.windAt(3), 24);
         x.wind(0, 0, 39, true);
         for (int turbine = 0; turbine < 4; turbine++) {
             CHECK.due("alone in its row", x.windAt(turbine), 39);

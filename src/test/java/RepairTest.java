@@ -224,6 +224,11 @@ public final class RepairTest {
         x.pass(1);
         // 5 and 17 are still beside 11, and 6 and 12 in the first column are not.
         dueMade("a repair in the last column", x, 343, 1000, 343, 216, 1000, 1216, 1216, 216);
+        Turbineorchard z = withTurbines(10, 11);
+        z.breaks(0);
+        z.repair(0, 0, 1);
+        z.pass(1);
+        dueMade("a repair in the last column but one", z, 0, 0);
         for (int corner : new int[] {0, 5, 18, 23}) {
             Turbineorchard y = withTurbines(corner);
             y.breaks(0);

@@ -90,14 +90,18 @@ public final class SlotTest {
         x.sell(27, 900, 1);
         x.sell(28, 5000, 3);
         x.sell(28, 2001, 4);
-        x.pass(30);
+        x.sell(30, 1001, 5);
+        x.sell(31, 999, 5);
+        x.pass(32);
         dueHour(x, 24, 1000, 1500, 500, 5000);
         dueHour(x, 25, 1000, 900, -100, 6600);
         dueHour(x, 26, 1000, 1000, 0, 9000);
         dueHour(x, 27, 1000, 900, -100, 900);
         dueHour(x, 28, 1000, 2001, 1001, -4);
         dueHour(x, 29, 1000, 0, -1000, 1000);
-        CHECK.due("brought()", x.brought(), 25000 + 5000 + 6600 + 9000 + 900 - 4);
+        dueHour(x, 30, 1000, 1001, 1, 4995);
+        dueHour(x, 31, 1000, 999, -1, 4997);
+        CHECK.due("brought()", x.brought(), 25000 + 5000 + 6600 + 9000 + 900 - 4 + 4995 + 4997);
     }
 
     private static void slotOfNoUnits() {
