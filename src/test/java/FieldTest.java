@@ -22,11 +22,7 @@ public final class FieldTest {
     }
 
     private static Turbineorchard withTurbines(int... places) {
-        Turbineorchard x = new Turbineorchard();
-        for (int place : places) {
-            x.turbine(place);
-        }
-        return x;
+        return Orchards.withTurbines(places);
     }
 
     private static void dueForetold(Turbineorchard x, int hour, int want) {

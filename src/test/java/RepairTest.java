@@ -23,11 +23,7 @@ public final class RepairTest {
     }
 
     private static Turbineorchard withTurbines(int... places) {
-        Turbineorchard x = new Turbineorchard();
-        for (int place : places) {
-            x.turbine(place);
-        }
-        return x;
+        return Orchards.withTurbines(places);
     }
 
     private static void dueBoat(String when, Turbineorchard x, int boat, int... want) {

@@ -18,9 +18,7 @@ public final class SlotTest {
 
     /** Makes 1000 units in each hour of a wind of 10. */
     private static Turbineorchard withOneTurbine() {
-        Turbineorchard x = new Turbineorchard();
-        x.turbine(0);
-        return x;
+        return Orchards.withTurbines(0);
     }
 
     private static void dueHour(Turbineorchard x, int hour, int... want) {
