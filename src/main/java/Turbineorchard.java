@@ -52,6 +52,7 @@ public final class Turbineorchard {
     private final Field field = new Field();
     private final Fleet fleet = new Fleet();
     private final Ledger ledger = new Ledger();
+    /** 0 to LAST_HOUR, as pass refuses what would go above: an index of every row of hours. */
     private int now;
 
     public Turbineorchard() {
@@ -321,6 +322,7 @@ public final class Turbineorchard {
 
     /** The places, the turbines at them, and the wakes between them. */
     private static final class Field {
+        /** The turbine at each place, NONE where there is none. */
         private final int[] turbineAt = new int[PLACES];
         private final int[] places = new int[MOST_TURBINES];
         private final boolean[] broken = new boolean[MOST_TURBINES];
